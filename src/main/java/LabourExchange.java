@@ -625,7 +625,6 @@ public final class LabourExchange {
     /** What a run with the TEXT behind all others makes more than the run as it is. */
     private void compareWithTry() {
         View real = asOfToday();
-        then.law.forget();
         then.settle(today, texts + 1);
         Arrays.fill(more, 0);
         for (int p = 0; p < land.people; p++) {
@@ -1285,7 +1284,11 @@ public final class LabourExchange {
                 value = fact == NONE ? placeIn(PARAM_WORDS) : Law.PARAMS + fact;
             } else if (isDigit(tape[at])) {
                 token = NUMBER;
-                advanceOverNumber();
+                number = 0;
+                // A number of too many digits is read as the first that is too great.
+                for (; at < length && isDigit(tape[at]); at++) {
+                    number = at - start < MOST_DIGITS ? number * 10 + tape[at] - '0' : Act.VALUE;
+                }
             } else {
                 token = isSignByte(tape[at]) ? tape[at] : NO_TOKEN;
                 at++;
@@ -1310,14 +1313,6 @@ public final class LabourExchange {
                 }
             }
             return NONE;
-        }
-
-        /** A number of too many digits is told as the first that is too great. */
-        private void advanceOverNumber() {
-            number = 0;
-            for (; at < length && isDigit(tape[at]); at++) {
-                number = at - start < MOST_DIGITS ? number * 10 + tape[at] - '0' : Act.VALUE;
-            }
         }
 
         private static boolean isLetter(int b) {
@@ -1688,7 +1683,9 @@ public final class LabourExchange {
         private void startClaim(int row, int day) {
             int stampsAhead = stampsAhead(day);
             int per = Math.max(1, law.param(Law.PER, day));
-            Arrays.fill(claims, row, row + CLAIM_ROW, 0);
+            for (int i = 0; i < CLAIM_ROW; i++) {
+                claims[row + i] = 0;
+            }
             claims[row + CLAIM_FIRST] = day;
             claims[row + CLAIM_EARNED] = Math.min(stampsAhead / per, law.param(Law.MOST_EARNED, day));
             claims[row + CLAIM_STAMPS] = stampsAhead;
@@ -2075,7 +2072,7 @@ public final class LabourExchange {
             for (int column = 1; column <= size; column++) {
                 columnOf[rowAt[column]] = column;
             }
-            Arrays.fill(settled, false);
+            unmark(settled);
             Arrays.fill(sentTo, NONE);
             int sum = 0;
             for (int row = 1; row <= rows; row++) {
@@ -2114,6 +2111,12 @@ public final class LabourExchange {
             return row <= rows && column <= columns && gain[who[row - 1]][where[column - 1]] > 0;
         }
 
+        private static void unmark(boolean[] marks) {
+            for (int i = 0; i < marks.length; i++) {
+                marks[i] = false;
+            }
+        }
+
         /** What a row at a column costs: less than nothing for a pair, more than nothing where no pair is. */
         private int costOf(int row, int column) {
             if (row > rows || column > columns) {
@@ -2128,7 +2131,7 @@ public final class LabourExchange {
 
         /** Finds a column for one more row, moving others on where that is best. */
         private void place(int row) {
-            Arrays.fill(reached, false);
+            unmark(reached);
             Arrays.fill(least, FAR);
             rowAt[0] = row;
             int column = 0;
@@ -2189,7 +2192,7 @@ public final class LabourExchange {
         /** Gives a column to a row, if those who must move for it can end at the column that the row leaves. */
         private boolean exchange(int row, int column) {
             int goal = columnOf[row];
-            Arrays.fill(reached, false);
+            unmark(reached);
             reached[column] = true;
             queue[0] = rowAt[column];
             int queued = 1;

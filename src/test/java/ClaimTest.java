@@ -11,12 +11,15 @@ public final class ClaimTest {
         likes();
         joined();
         newClaim();
+        firstClaim();
         earnedDays();
+        toldLater();
         payingTexts();
         needy();
         wrongQuestions();
         values();
         reasonOfTheBar();
+        valuesOfTheBar();
         stampsByClaims();
         manyClaims();
         CHECK.end();
@@ -187,6 +190,45 @@ public final class ClaimTest {
         CHECK.noElement("no third CLAIM", () -> x.claim(0, 2, 0));
     }
 
+    /** However long the gap may be, there is nothing to join at first. */
+    private static void firstClaim() {
+        LabourExchange x = landWithClaim("set gap 9999;").x;
+        CHECK.due("a new CLAIM", 0, x.claim(0, 0, 7));
+        CHECK.due("its first DAY", 312, x.claim(0, 0, 0));
+        Land land = Land.of(1);
+        land.text("insure 0;");
+        land.x.event(0, 0, 0, 312);
+        land.x.event(2, 0, 0, 312);
+        CHECK.due("no WEEK is KNOWN", 52, land.x.claim(0, 0, 10));
+        CHECK.due("no STAMPS", 0, land.x.claim(0, 0, 9));
+        land.x.days(5);
+        CHECK.due("ENDED behind waiting", 0, land.x.day(0, 315, 0));
+    }
+
+    /** Rows and RETURNS told behind a CLAIM's first DAY work it anew. */
+    private static void toldLater() {
+        Land land = Land.of(1);
+        LabourExchange x = land.x;
+        land.text("insure 0;");
+        x.event(0, 0, 0, 312);
+        x.event(2, 0, 0, 312);
+        x.days(9);
+        CHECK.due("no EARNED DAYS", 0, x.claim(0, 0, 1));
+        x.returns(0, 51, 6);
+        CHECK.due("by a RETURN", 2, x.claim(0, 0, 1));
+        land.row(0, 0, 6, 6);
+        CHECK.due("by a row", 6, x.claim(0, 0, 1));
+        CHECK.due("EARNED ever since", 3, x.day(0, 320, 0));
+        x.look(320);
+        CHECK.due("as known ahead", 0, x.claim(0, 0, 1));
+        x.look(-1);
+        x.days(1);
+        x.book(0, 0, -1);
+        CHECK.due("the row is missing", 2, x.claim(0, 0, 1));
+        x.look(321);
+        CHECK.due("as known on 321", 6, x.claim(0, 0, 1));
+    }
+
     private static void earnedDays() {
         int[][] rows = {{5, 60, 62}, {0, 999, 312}, {1, 999, 312}, {7, 44, 44}, {400, 60, 0}, {3, 0, 0}};
         for (int[] row : rows) {
@@ -309,6 +351,23 @@ public final class ClaimTest {
         x.days(8);
         kinds("the bar of REFUSES, its OFFER's values", x, 312, 1, 1, 1, 1, 1, 3);
         CHECK.due("reason is that of LEAVES again", 0, x.value(0, 8));
+    }
+
+    private static void valuesOfTheBar() {
+        Land land = landWithClaim("set wait 0;bar out + paid + 100 * (miles + wage + same) * (reason < 4);");
+        LabourExchange x = land.x;
+        x.vacancy(0, 0, 7, 0);
+        x.days(3);
+        x.offer(0, 0);
+        x.answer(0, false);
+        x.days(7);
+        kinds("three DAYS out, three paid, this one not yet", x, 314, 3, 1, 1, 1, 1, 1, 1, 3);
+        x.vacancy(0, 0, 7, 0);
+        x.offer(0, 1);
+        x.event(1, 0, 7, 322);
+        x.event(0, 0, 0, 322);
+        x.event(2, 0, 0, 322);
+        CHECK.due("the bar of LEAVES sees no OFFER", 3, x.day(0, 322, 0));
     }
 
     /** A bar of LEAVES sees the stamps of the open CLAIM, or else those ahead of its own DAY. */

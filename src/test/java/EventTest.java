@@ -66,6 +66,14 @@ public final class EventTest {
         CHECK.due("it was", false, x.back(0));
         CHECK.due("IN WORK", 7, x.day(0, 316, 0));
         CHECK.due("ever since", 7, x.day(0, 312, 0));
+        x.event(LEAVES, 0, 3, 312);
+        x.event(MEANS, 0, 9, 312);
+        CHECK.due("reason", 3, x.value(0, 8));
+        CHECK.due("means", 9, x.value(0, 7));
+        x.back(1);
+        x.back(2);
+        CHECK.due("no reason", 0, x.value(0, 8));
+        CHECK.due("no means", 0, x.value(0, 7));
         x.look(315);
         CHECK.due("known on the day ahead", 9, x.day(0, 315, 0));
         x.look(316);

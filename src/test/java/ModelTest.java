@@ -17,7 +17,7 @@ public final class ModelTest {
 
     public static void main(String[] args) {
         int from = args.length > 0 ? Integer.parseInt(args[0]) : 1;
-        int to = args.length > 1 ? Integer.parseInt(args[1]) : 16;
+        int to = args.length > 1 ? Integer.parseInt(args[1]) : 250;
         Check check = new Check();
         for (int seed = from; seed <= to; seed++) {
             new ModelTest(seed, check).run(seed);

@@ -11,19 +11,28 @@ public final class SendTest {
         kept();
         prices();
         proves();
-        for (int seed = 1; seed <= 40; seed++) {
-            greatLand(new Random(seed), seed % 4 == 0 ? 60 : 3);
+        for (int seed = 1; seed <= 60; seed++) {
+            int vacancies = seed % 5 == 0 ? 24 : 4 + seed % 19;
+            int[] least = {10, 1, 14};
+            int[] spread = {3, 9, 4, 60};
+            greatLand(new Random(seed), vacancies, least[seed % 3], spread[seed % 4]);
         }
         CHECK.end();
     }
 
     /** A land with so many people, all with open claims, at the first of three offices. */
     private static Land land(int people, String text) {
+        return land(new int[people], text);
+    }
+
+    /** A land with people at such offices. */
+    private static Land land(int[] officeOf, String text) {
         Land land = Land.of(0);
+        int people = officeOf.length;
         land.x.office(50, 60);
         land.x.office(0, 9);
         for (int p = 0; p < people; p++) {
-            land.x.person(p % 4, 30, 0, 20, 5);
+            land.x.person(p % 4, 30, officeOf[p], 20, 5);
         }
         land.text("insure 0,1,2,3;" + text);
         for (int p = 0; p < people; p++) {
@@ -148,20 +157,23 @@ public final class SendTest {
     }
 
     /** Twenty people and many vacancies: the answer against sums that no two sendings share. */
-    private static void greatLand(Random random, int worths) {
-        Land land = land(20, "suit not (trade = 0) or wage < 4;suit not (trade = 1) or wage = 3 or wage = 5;"
+    private static void greatLand(Random random, int n, int leastWorth, int worths) {
+        int[] officeOf = new int[20];
+        for (int p = 0; p < 20; p++) {
+            officeOf[p] = random.nextInt(3);
+        }
+        Land land = land(officeOf, "suit not (trade = 0) or wage < 4;suit not (trade = 1) or wage = 3 or wage = 5;"
             + "suit not (trade = 2) or 4 < wage;");
         LabourExchange x = land.x;
-        int n = 10 + random.nextInt(15);
         int[] wage = new int[n];
         int[] worth = new int[n];
-        int[] miles = new int[n];
+        int[] office = new int[n];
+        int[][] miles = {{0, 110, 9}, {110, 0, 101}, {9, 101, 0}};
         for (int v = 0; v < n; v++) {
-            int office = random.nextInt(3);
+            office[v] = random.nextInt(3);
             wage[v] = 1 + random.nextInt(7);
-            worth[v] = 10 + random.nextInt(worths);
-            miles[v] = office == 0 ? 0 : office == 1 ? 110 : 9;
-            CHECK.due("vacancy", v, x.vacancy(office, 0, wage[v], worth[v]));
+            worth[v] = leastWorth + random.nextInt(worths);
+            CHECK.due("vacancy", v, x.vacancy(office[v], 0, wage[v], worth[v]));
         }
         x.days(3);
         int[][] gain = new int[20][n];
@@ -170,7 +182,7 @@ public final class SendTest {
                 int trade = p % 4;
                 boolean suits = trade == 0 ? wage[v] < 4 : trade == 1 ? wage[v] == 3 || wage[v] == 5
                     : trade == 2 ? wage[v] > 4 : true;
-                gain[p][v] = suits ? Math.max(0, worth[v] - miles[v] / 10) : 0;
+                gain[p][v] = suits ? Math.max(0, worth[v] - miles[officeOf[p]][office[v]] / 10) : 0;
             }
         }
         int[] best = best(gain, n);

@@ -16,6 +16,7 @@ public final class TextTest {
         inForce();
         latest();
         lawAsKnown();
+        manySpans();
         worth();
         CHECK.end();
     }
@@ -135,7 +136,11 @@ public final class TextTest {
         fault("pay ((((((;", 1, 10);
         fault("pay (((((()", 1, 10);
         fault("pay ((((((", 1, 10);
-        good("pay 12ab3;".replace("ab3", ";").replace(";;", ";"));
+        for (char c = 0; c < 4; c++) {
+            fault("pay " + c + ";", 1, 4);
+            fault("insure " + c + ";", 1, 7);
+            fault("bar 1;" + c, 1, 6);
+        }
         fault("pay 12age;", 1, 6);
         good("set wait3;");
         good("pay not1<age*(2);needy(1)or(0)and not not 1 unless same;");
@@ -162,6 +167,8 @@ public final class TextTest {
         fault("pay (((((((1)))))));", 2, 10);
         fault("pay 1 unless ((((((1))))));", 2, 19);
         good("pay (((((1))))) unless (((((1)))));");
+        good("like (((((1))))) bar 1;");
+        fault("like ((((((1)))))) bar 1;", 2, 11);
         good("pay (((((1)))))+(((((1)))));");
         good("pay not not not not not not 1;");
         fault("pay not not not not not not not 1;", 2, 28);
@@ -185,6 +192,8 @@ public final class TextTest {
         fault("pay 1 and bar;", 3, 10);
         fault("pay not hello;", 3, 8);
         fault("pay ages;", 3, 4);
+        fault("pay zag;", 3, 4);
+        fault("pay agez;", 3, 4);
         fault("pay stampss;", 3, 4);
         fault("suit (insure);", 3, 6);
         good("pay wait+gap+rate+days+per+extra+stamp+court;");
@@ -281,6 +290,29 @@ public final class TextTest {
         CHECK.due("known on the DAY it is told", 9, x.law(0, 100));
         x.look(-1);
         CHECK.due("known TODAY", 9, x.law(0, 934));
+        land.text("insure 1;set wait 8;suit 0;needy 5;", 0, 935);
+        x.days(1);
+        x.look(322);
+        CHECK.due("insured as known on 322", 1, x.law(11, 0));
+        x.look(321);
+        CHECK.due("not as known on 321", 0, x.law(11, 0));
+    }
+
+    /** As many spans of DAYS as sixteen TEXTS and a TRY can make. */
+    private static void manySpans() {
+        Land land = Land.of(1);
+        for (int i = 0; i < 16; i++) {
+            land.text("set wait " + (100 + i) + ";", 1 + 10 * i, 6 + 10 * i);
+        }
+        Land.feed(land.x, Land.bytes("set wait 200;"));
+        CHECK.due("a TRY behind all", 0, land.x.attempt(13, 911, 916));
+        for (int i = 0; i < 16; i++) {
+            CHECK.due("in span " + i, 100 + i, land.x.law(0, 5 + 10 * i));
+            CHECK.due("behind span " + i, 3, land.x.law(0, 6 + 10 * i));
+        }
+        land.x.days(1);
+        land.x.look(312);
+        CHECK.due("in the last span, of another DAY", 115, land.x.law(0, 151));
     }
 
     /** EXPRESSIONS, as PAY of the first DAY shows them: 0 to 9999. */

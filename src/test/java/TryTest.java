@@ -7,6 +7,7 @@ public final class TryTest {
         more();
         leavesNoTrace();
         behindAllOthers();
+        needyDays();
         sixteenTexts();
         count();
         CHECK.end();
@@ -111,6 +112,13 @@ public final class TryTest {
         Land.feed(x, Land.bytes("pay 40;"));
         x.attempt(7, 313, 900);
         tried("behind the other", x, 8, 10, 0, 0);
+    }
+
+    private static void needyDays() {
+        Land land = land(1, "set wait 0;set days 2;");
+        land.x.days(5);
+        land.attempt("needy 4 unless out = 5;");
+        tried("NEEDY DAYS are paid", land.x, 8, 12, 3, -3);
     }
 
     private static void sixteenTexts() {
