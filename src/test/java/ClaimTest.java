@@ -354,6 +354,12 @@ public final class ClaimTest {
     }
 
     private static void valuesOfTheBar() {
+        LabourExchange params = landWithClaim("set wait 2;set extra 1;set days 1;bar wait - 1;pay wait * 10 + paid;").x;
+        params.days(5);
+        kinds("barred by PARAMS", params, 312, 1, 2, 2, 3, 4, 0);
+        CHECK.due("paid by them, EARNED", 20, params.day(0, 315, 1));
+        CHECK.due("EXTENDED", 21, params.day(0, 316, 1));
+        CHECK.due("paid as EARNED and EXTENDED", 2, params.value(0, 4));
         Land land = landWithClaim("set wait 0;bar out + paid + 100 * (miles + wage + same) * (reason < 4);");
         LabourExchange x = land.x;
         x.vacancy(0, 0, 7, 0);

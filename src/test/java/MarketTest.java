@@ -50,6 +50,9 @@ public final class MarketTest {
     private static void known() {
         LabourExchange x = land("").x;
         x.office(25, 25);
+        x.office(0, 1);
+        x.office(50, 1);
+        x.office(99, 1);
         x.days(3);
         x.vacancy(0, 0, 5, 5);
         x.vacancy(2, 0, 5, 5);
@@ -58,9 +61,12 @@ public final class MarketTest {
         CHECK.due("198 miles", 319, x.known(0, 2));
         CHECK.due("50 miles", 316, x.known(0, 3));
         CHECK.due("138 miles", 318, x.known(1, 1));
+        CHECK.due("1 mile", 316, x.known(0, 4));
+        CHECK.due("51 miles", 317, x.known(0, 5));
+        CHECK.due("100 miles", 317, x.known(0, 6));
         CHECK.noElement("vacancy 2", () -> x.known(2, 0));
         CHECK.noElement("vacancy -1", () -> x.known(-1, 0));
-        CHECK.noElement("office 4", () -> x.known(0, 4));
+        CHECK.noElement("office 7", () -> x.known(0, 7));
         CHECK.noElement("office -1", () -> x.known(0, -1));
     }
 

@@ -85,6 +85,11 @@ public final class SendTest {
         }
         CHECK.due("like ones", 21, x.send());
         sent("the first as a row", x, 0, 1, 2);
+        LabourExchange one = land(2, "").x;
+        one.vacancy(0, 0, 5, 7);
+        CHECK.due("one for two", 7, one.send());
+        CHECK.due("and asked again", 7, one.send());
+        sent("the first", one, 0, -1);
         LabourExchange y = land(3, "").x;
         y.vacancy(0, 0, 5, 7);
         y.vacancy(0, 0, 5, 7);

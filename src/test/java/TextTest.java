@@ -11,6 +11,7 @@ public final class TextTest {
         unknownWord();
         toldAlready();
         firstFault();
+        faultLeavesNothing();
         clauseLimit();
         lawAsked();
         inForce();
@@ -212,6 +213,26 @@ public final class TextTest {
         fault("set wait 1; set wat 2; insure 9;", 3, 16);
         fault("insure 9; set wat 2;", 2, 7);
         fault("pay 1 ? 2; insure 9;", 1, 6);
+    }
+
+    /** What a faulty TEXT had told ahead of its FAULT is not in the next one. */
+    private static void faultLeavesNothing() {
+        Land land = Land.of(1);
+        LabourExchange x = land.x;
+        land.text("insure 0;set wait 0;");
+        land.text("insure 1;set gap 5;pay 9;needy 9;bar 9;suit 0;suit 0;like 1 bar 7;?");
+        CHECK.due("the place", 66, x.fault());
+        land.text("set per 1;");
+        land.fullRow(0, 0, 6);
+        x.event(0, 0, 0, 312);
+        x.event(2, 0, 0, 312);
+        x.vacancy(0, 0, 5, 5);
+        CHECK.due("insured as before", 1, x.law(10, 312));
+        CHECK.due("gap as before", 18, x.law(1, 312));
+        CHECK.due("not barred, and rate", 10, x.day(0, 312, 1));
+        CHECK.due("SUITABLE", 1, x.offerOf(x.offer(0, 0), 2));
+        x.days(61);
+        CHECK.due("not NEEDY", 0, x.day(0, 373, 0));
     }
 
     private static void clauseLimit() {
