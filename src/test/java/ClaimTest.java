@@ -60,15 +60,6 @@ public final class ClaimTest {
         CHECK.due("it was TODAY again", -1, x.look(-1));
     }
 
-    private static Land landWithClaim(String text) {
-        Land land = Land.of(1);
-        land.text("insure 0;" + text);
-        land.fullRow(0, 0, 6);
-        land.x.event(0, 0, 0, 312);
-        land.x.event(2, 0, 0, 312);
-        return land;
-    }
-
     private static void kinds(String what, LabourExchange x, int from, int... want) {
         for (int i = 0; i < want.length; i++) {
             CHECK.due(what + ", day " + (from + i), want[i], x.day(0, from + i, 0));
@@ -77,7 +68,7 @@ public final class ClaimTest {
 
     /** Promises 15 and 16. */
     private static void kindsOfDays() {
-        LabourExchange x = landWithClaim("set wait 2;set days 3;set extra 1;needy 4 unless 335 < out + 312;").x;
+        LabourExchange x = Land.withClaim("set wait 2;set days 3;set extra 1;needy 4 unless 335 < out + 312;").x;
         x.days(30);
         kinds("a CLAIM", x, 312, 2, 2, 3, 3, 3, 4, 5, 5);
         kinds("its end", x, 334, 5, 5, 0, 0, 0);
@@ -110,7 +101,7 @@ public final class ClaimTest {
     }
 
     private static void bars() {
-        Land land = landWithClaim("set wait 0;bar 2 + 5 * (reason = 1) - 9 * (reason = 2);");
+        Land land = Land.withClaim("set wait 0;bar 2 + 5 * (reason = 1) - 9 * (reason = 2);");
         LabourExchange x = land.x;
         x.days(20);
         kinds("barred for this DAY and one more", x, 312, 1, 1, 3);
@@ -152,7 +143,7 @@ public final class ClaimTest {
     }
 
     private static void joined() {
-        Land land = landWithClaim("set gap 4;set wait 2;");
+        Land land = Land.withClaim("set gap 4;set wait 2;");
         LabourExchange x = land.x;
         x.days(30);
         x.event(3, 0, 0, 315);
@@ -169,7 +160,7 @@ public final class ClaimTest {
     }
 
     private static void newClaim() {
-        Land land = landWithClaim("set gap 4;set wait 2;");
+        Land land = Land.withClaim("set gap 4;set wait 2;");
         LabourExchange x = land.x;
         x.days(30);
         x.event(3, 0, 0, 315);
@@ -192,7 +183,7 @@ public final class ClaimTest {
 
     /** However long the gap may be, there is nothing to join at first. */
     private static void firstClaim() {
-        LabourExchange x = landWithClaim("set gap 9999;").x;
+        LabourExchange x = Land.withClaim("set gap 9999;").x;
         CHECK.due("a new CLAIM", 0, x.claim(0, 0, 7));
         CHECK.due("its first DAY", 312, x.claim(0, 0, 0));
         Land land = Land.of(1);
@@ -232,7 +223,7 @@ public final class ClaimTest {
     private static void earnedDays() {
         int[][] rows = {{5, 60, 62}, {0, 999, 312}, {1, 999, 312}, {7, 44, 44}, {400, 60, 0}, {3, 0, 0}};
         for (int[] row : rows) {
-            LabourExchange x = landWithClaim("set per " + row[0] + ";set days " + row[1] + ";").x;
+            LabourExchange x = Land.withClaim("set per " + row[0] + ";set days " + row[1] + ";").x;
             CHECK.due("stamps by " + row[0], Math.min(row[1], row[2]), x.claim(0, 0, 1));
         }
         Land land = Land.of(1);
@@ -249,7 +240,7 @@ public final class ClaimTest {
     }
 
     private static void payingTexts() {
-        Land land = landWithClaim("set wait 0;set days 6;");
+        Land land = Land.withClaim("set wait 0;set days 6;");
         LabourExchange x = land.x;
         land.text("pay 7 unless 1;", 314, 316);
         land.text("pay 12;needy 99999;", 313, 900);
@@ -263,7 +254,7 @@ public final class ClaimTest {
             CHECK.due("pay of day " + i, pay[i], x.day(0, 312 + i, 1));
             CHECK.due("text of day " + i, text[i], x.day(0, 312 + i, 2));
         }
-        Land other = landWithClaim("set wait 1;set rate 20000;");
+        Land other = Land.withClaim("set wait 1;set rate 20000;");
         other.x.days(1);
         CHECK.due("waiting is paid by none", -1, other.x.day(0, 312, 2));
         CHECK.due("rate without 'pay', cut", 9999, other.x.day(0, 313, 1));
@@ -271,7 +262,7 @@ public final class ClaimTest {
     }
 
     private static void needy() {
-        Land land = landWithClaim("set wait 0;set days 0;needy 8 - means / 10;");
+        Land land = Land.withClaim("set wait 0;set days 0;needy 8 - means / 10;");
         LabourExchange x = land.x;
         x.days(6);
         x.event(5, 0, 50, 314);
@@ -287,7 +278,7 @@ public final class ClaimTest {
     }
 
     private static void wrongQuestions() {
-        LabourExchange x = landWithClaim("").x;
+        LabourExchange x = Land.withClaim("").x;
         x.days(5);
         CHECK.noElement("day of nobody", () -> x.day(1, 312, 0));
         CHECK.noElement("day 311", () -> x.day(0, 311, 0));
@@ -343,7 +334,7 @@ public final class ClaimTest {
     }
 
     private static void reasonOfTheBar() {
-        Land land = landWithClaim("set wait 0;bar 3 * (reason = 4) + (wage = 7) * (miles = 0) + same;suit 1;");
+        Land land = Land.withClaim("set wait 0;bar 3 * (reason = 4) + (wage = 7) * (miles = 0) + same;suit 1;");
         LabourExchange x = land.x;
         x.vacancy(0, 0, 7, 0);
         x.offer(0, 0);
@@ -354,13 +345,13 @@ public final class ClaimTest {
     }
 
     private static void valuesOfTheBar() {
-        LabourExchange params = landWithClaim("set wait 2;set extra 1;set days 1;bar wait - 1;pay wait * 10 + paid;").x;
+        LabourExchange params = Land.withClaim("set wait 2;set extra 1;set days 1;bar wait - 1;pay wait * 10 + paid;").x;
         params.days(5);
         kinds("barred by PARAMS", params, 312, 1, 2, 2, 3, 4, 0);
         CHECK.due("paid by them, EARNED", 20, params.day(0, 315, 1));
         CHECK.due("EXTENDED", 21, params.day(0, 316, 1));
         CHECK.due("paid as EARNED and EXTENDED", 2, params.value(0, 4));
-        Land land = landWithClaim("set wait 0;bar out + paid + 100 * (miles + wage + same) * (reason < 4);");
+        Land land = Land.withClaim("set wait 0;bar out + paid + 100 * (miles + wage + same) * (reason < 4);");
         LabourExchange x = land.x;
         x.vacancy(0, 0, 7, 0);
         x.days(3);

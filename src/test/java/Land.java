@@ -12,6 +12,16 @@ final class Land {
         return land;
     }
 
+    /** One person with a full row, who left and signed on 312, under 'insure 0;' and this. */
+    static Land withClaim(String text) {
+        Land land = Land.of(1);
+        land.text("insure 0;" + text);
+        land.fullRow(0, 0, 6);
+        land.x.event(0, 0, 0, 312);
+        land.x.event(2, 0, 0, 312);
+        return land;
+    }
+
     /** Feeds at least these bytes, blanks behind them. */
     static void feed(LabourExchange x, byte[] bytes) {
         for (int at = 0; at < bytes.length; at += 20) {

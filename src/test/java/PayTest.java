@@ -12,18 +12,9 @@ public final class PayTest {
         CHECK.end();
     }
 
-    private static Land landWithClaim(String text) {
-        Land land = Land.of(1);
-        land.text("insure 0;" + text);
-        land.fullRow(0, 0, 6);
-        land.x.event(0, 0, 0, 312);
-        land.x.event(2, 0, 0, 312);
-        return land;
-    }
-
     /** Promise 19. */
     private static void weeks() {
-        LabourExchange x = landWithClaim("set wait 2;").x;
+        LabourExchange x = Land.withClaim("set wait 2;").x;
         CHECK.noElement("paid to nobody", () -> x.paid(1, 0));
         CHECK.noElement("paid -1", () -> x.paid(0, -1));
         CHECK.noElement("paid 3", () -> x.paid(0, 3));
@@ -42,7 +33,7 @@ public final class PayTest {
     }
 
     private static void owed() {
-        LabourExchange x = landWithClaim("set wait 0;").x;
+        LabourExchange x = Land.withClaim("set wait 0;").x;
         x.days(6);
         CHECK.due("paid", 60, x.paid(0, 0));
         x.event(1, 0, 20, 314);
@@ -61,7 +52,7 @@ public final class PayTest {
     }
 
     private static void knownOnTheLastDay() {
-        Land land = landWithClaim("set wait 0;");
+        Land land = Land.withClaim("set wait 0;");
         LabourExchange x = land.x;
         x.days(6);
         land.text("pay 25;", 312, 900);
@@ -100,7 +91,7 @@ public final class PayTest {
     }
 
     private static void lasts() {
-        LabourExchange x = landWithClaim("set wait 0;set stamp 0;set per 1;set days 999;pay 7 * (out < 18) + 5;").x;
+        LabourExchange x = Land.withClaim("set wait 0;set stamp 0;set per 1;set days 999;pay 7 * (out < 18) + 5;").x;
         x.days(6);
         CHECK.due("a WEEK", 10000 - 72, x.fund(0));
         CHECK.due("9928 by 72, and one", 9928 / 72 + 1, x.fund(3));
@@ -109,7 +100,7 @@ public final class PayTest {
         CHECK.due("the mean of 72, 72, 72, 30 is 61.5", 9754 / 62 + 1, x.fund(3));
         x.days(6);
         CHECK.due("the latest four: 72, 72, 30, 30 is 51", 9724 / 51 + 1, x.fund(3));
-        Land penny = landWithClaim("set wait 0;set stamp 0;set days 1;pay 10000;needy 1 unless 0 < means;");
+        Land penny = Land.withClaim("set wait 0;set stamp 0;set days 1;pay 10000;needy 1 unless 0 < means;");
         penny.x.event(5, 0, 7, 312);
         penny.x.days(6);
         CHECK.due("one penny left", 1, penny.x.fund(0));
@@ -122,24 +113,24 @@ public final class PayTest {
         CHECK.due("a penny is paid", 10000, penny.x.paid(0, 0));
         CHECK.due("none is left", 0, penny.x.fund(0));
         CHECK.due("0 isn't below 0, but a WEEK more is", 1, penny.x.fund(3));
-        Land slow = landWithClaim("set wait 0;set stamp 0;pay 1 * (out = 5);");
+        Land slow = Land.withClaim("set wait 0;set stamp 0;pay 1 * (out = 5);");
         slow.x.days(6);
         CHECK.due("a penny a WEEK", 10000, slow.x.fund(3));
         slow.x.days(18);
         CHECK.due("a quarter of a penny is cut to one", 10000, slow.x.fund(3));
         slow.x.days(6);
         CHECK.due("nothing at all", -1, slow.x.fund(3));
-        Land even = landWithClaim("set wait 0;set stamp 0;pay 1000;");
+        Land even = Land.withClaim("set wait 0;set stamp 0;pay 1000;");
         even.x.days(6);
         CHECK.due("4000 left by 6000", 1, even.x.fund(3));
-        Land just = landWithClaim("set wait 0;set stamp 0;pay 833 + 2 * (out = 0);");
+        Land just = Land.withClaim("set wait 0;set stamp 0;pay 833 + 2 * (out = 0);");
         just.x.days(6);
         CHECK.due("5000 left", 5000, just.x.fund(0));
         CHECK.due("5000 by 5000: 0 isn't below 0", 2, just.x.fund(3));
     }
 
     private static void belowNothing() {
-        LabourExchange x = landWithClaim("set wait 0;pay 9999;").x;
+        LabourExchange x = Land.withClaim("set wait 0;pay 9999;").x;
         x.days(6);
         CHECK.due("below 0", 10000 - 59994, x.fund(0));
         CHECK.due("LASTS 0", 0, x.fund(3));
