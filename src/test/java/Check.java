@@ -1,3 +1,4 @@
+import java.util.List;
 import java.util.NoSuchElementException;
 
 /** Counts the answers of one test that are not as due, and ends it. */
@@ -15,6 +16,20 @@ final class Check {
 
     void due(String call, boolean want, boolean got) {
         due(call, want ? 1 : 0, got ? 1 : 0);
+    }
+
+    /** That two lists of what was told are the same; the first that is not is printed. */
+    void same(String what, List<String> want, List<String> got) {
+        made++;
+        for (int i = 0; i < Math.max(want.size(), got.size()); i++) {
+            String due = i < want.size() ? want.get(i) : "nothing";
+            String told = i < got.size() ? got.get(i) : "nothing";
+            if (!due.equals(told)) {
+                wrong++;
+                System.out.println(what + ": " + told + ", due is: " + due);
+                return;
+            }
+        }
     }
 
     void noElement(String call, Runnable run) {
