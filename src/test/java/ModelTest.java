@@ -1,18 +1,25 @@
 import java.util.NoSuchElementException;
 import java.util.Random;
 
-/** Random runs of calls, each answered by the program and by the Model, from fixed seeds. */
+/**
+ * Random runs of calls, each answered by the program and by the Model, from fixed seeds. Every tenth run is of twenty
+ * people, and every tenth asks for what isn't as told every third time.
+ */
 public final class ModelTest {
     private final Random random;
     private final LabourExchange x = new LabourExchange();
     private final Model m = new Model();
     private final Check check;
     private final StringBuilder calls = new StringBuilder();
+    private final int odds;
+    private final boolean crowded;
     private int made;
 
     private ModelTest(long seed, Check check) {
         random = new Random(seed);
         this.check = check;
+        odds = seed % 10 == 7 ? 3 : 25;
+        crowded = seed % 10 == 4;
     }
 
     public static void main(String[] args) {
@@ -63,7 +70,7 @@ public final class ModelTest {
     }
 
     private boolean seldom() {
-        return random.nextInt(25) == 0;
+        return random.nextInt(odds) == 0;
     }
 
     /** A number from least to most, seldom one just outside or far off. */
@@ -80,7 +87,7 @@ public final class ModelTest {
         for (int i = 0; i < 2; i++) {
             office();
         }
-        int people = 2 + to(3);
+        int people = crowded ? 21 : 2 + to(3);
         for (int i = 0; i < people; i++) {
             person();
         }
@@ -88,7 +95,7 @@ public final class ModelTest {
         feed(Land.bytes(first));
         both("text(" + first + ")", () -> x.text(first.length(), 0, 935), () -> m.text(first.length(), 0, 935));
         text(validText());
-        for (int p = 0; p < people; p++) {
+        for (int p = 0; p < people && p < 6; p++) {
             row(p, 0);
         }
         while (made < 505) {
