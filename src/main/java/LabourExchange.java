@@ -46,7 +46,6 @@ public final class LabourExchange {
     private final View then;
     private final int[] more = new int[(TRADES + 1) * Life.TOTALS];
     private int texts;
-    private int place = NONE;
     private boolean wasTried;
     private int today = FIRST_DAY;
     private int theDay = NONE;
@@ -136,11 +135,11 @@ public final class LabourExchange {
     /** Promise 8: the tape's first n bytes are a TEXT. */
     public int text(int n, int from, int to) throws IllegalArgumentException {
         requireOnTape(n);
-        boolean refused = texts >= MOST_TEXTS || outside(from, 0, LAST_DAY) || outside(to, 0, LAST_DAY);
-        int fault = readAct(refused, n);
-        if (refused) {
+        if (texts >= MOST_TEXTS || outside(from, 0, LAST_DAY) || outside(to, 0, LAST_DAY)) {
+            reader.refuse();
             return -TEXT_REFUSED;
         }
+        int fault = reader.read(n, acts[texts]);
         if (fault != 0) {
             return -1 - fault;
         }
@@ -151,7 +150,7 @@ public final class LabourExchange {
 
     /** Promise 9: where the FAULT of the latest TEXT is. */
     public int fault() {
-        return place;
+        return reader.place;
     }
 
     /** Promise 10: tells an EVENT of kind 0 to 6. */
@@ -474,7 +473,11 @@ public final class LabourExchange {
     /** Promise 34: tries a TEXT on the years so far. */
     public int attempt(int n, int from, int to) throws IllegalArgumentException {
         requireOnTape(n);
-        int fault = readAct(outside(from, 0, LAST_DAY) || outside(to, 0, LAST_DAY), n);
+        if (outside(from, 0, LAST_DAY) || outside(to, 0, LAST_DAY)) {
+            reader.refuse();
+            return TEXT_REFUSED;
+        }
+        int fault = reader.read(n, acts[texts]);
         if (fault == 0) {
             acts[texts].reign(from, to, today);
             compareWithTry();
@@ -582,14 +585,6 @@ public final class LabourExchange {
         View view = asOfTheDay();
         view.lifeOf(events.person[event]);
         return view.does[event];
-    }
-
-    /** Reads the tape into the place behind all TEXTS: 0, the FAULT, or that it is refused unread. */
-    private int readAct(boolean refused, int n) {
-        int fault = refused ? TEXT_REFUSED : reader.read(n, acts[texts]);
-        place = refused || fault == 0 ? NONE : reader.place;
-        reader.clear();
-        return fault;
     }
 
     private void payWeek() {
@@ -998,7 +993,8 @@ public final class LabourExchange {
 
         final byte[] tape = new byte[MOST_BYTES];
         int size;
-        int place;
+        // Of the FAULT of the TEXT that was read last.
+        int place = NONE;
         private int fault;
         private int length;
         private int start;
@@ -1021,7 +1017,13 @@ public final class LabourExchange {
             size = 0;
         }
 
-        /** Reads the tape's first n bytes into an act: 0, or the FAULT, whose place is kept. */
+        /** Takes the tape without reading a TEXT from it. */
+        void refuse() {
+            place = NONE;
+            clear();
+        }
+
+        /** Takes the tape and reads its first n bytes into an act: 0, or the FAULT, whose place is kept. */
         int read(int n, Act into) {
             act = into;
             act.begin();
@@ -1033,6 +1035,7 @@ public final class LabourExchange {
             for (int i = 0; i <= Act.MOST_CLAUSES && fault == 0 && token != END_OF_TEXT; i++) {
                 readClause(i);
             }
+            clear();
             return fault;
         }
 
