@@ -2090,7 +2090,7 @@ public final class LabourExchange {
             for (int p = 0; p < people; p++) {
                 boolean hasPair = false;
                 for (int v = 0; v < vacancies; v++) {
-                    hasPair |= gain[p][v] > 0;
+                    hasPair = hasPair || gain[p][v] > 0;
                 }
                 if (hasPair) {
                     who[rows] = p;
@@ -2100,7 +2100,7 @@ public final class LabourExchange {
             for (int v = 0; v < vacancies; v++) {
                 boolean hasPair = false;
                 for (int p = 0; p < people; p++) {
-                    hasPair |= gain[p][v] > 0;
+                    hasPair = hasPair || gain[p][v] > 0;
                 }
                 if (hasPair) {
                     where[columns] = v;

@@ -30,7 +30,7 @@ public final class LanguageTest {
         String[] banned = {"\\btry\\b", "\\bcatch\\b", "\\bfinally\\b", "->", "::", "\\bsynchronized\\b", "\\bassert\\b",
             "Exact\\b", "\\bpackage\\b", "\\brecord\\b", "\\binstanceof\\b", "\\bstatic \\{", "\"\\s*\\+", "\\+\\s*\"",
             "\\bequals\\b", "\\bhashCode\\b", "\\btoString\\b", "\\bSystem\\.(?!arraycopy)", "\\bString\\.", "\\bfloat\\b",
-            "\\bdouble\\b", "\\bObject\\b", "\\bwhile\\b", "\\bprotected\\b"};
+            "\\bdouble\\b", "\\bObject\\b", "\\bwhile\\b", "\\bprotected\\b", "[|&^]="};
         for (String word : banned) {
             CHECK.due("banned: " + word, false, Pattern.compile(word).matcher(code).find());
         }
